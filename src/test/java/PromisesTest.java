@@ -33,6 +33,7 @@ public final class PromisesTest {
         take();
         ways();
         waysMost();
+        waysJustBelowMost();
         waysEndless();
         least();
         board();
@@ -40,6 +41,7 @@ public final class PromisesTest {
         parses();
         best();
         bestOfLikeOnes();
+        bestByNumber();
         bestInCircles();
         stands();
         count();
@@ -187,6 +189,12 @@ public final class PromisesTest {
         }
         due("5: full", f.repeat(A, B, 1, X, 0), FULL);
         due("5: outside ahead of full", f.repeat(A, B, 0, X, 0), OUTSIDE);
+        f.clear();
+        f.fill(B, 0, 0);
+        due("5: no ways yet", f.ways(A, 2, 2) + f.stands(A, 0, 1, 1), 0);
+        f.repeat(A, B, 1, X, 0);
+        due("5: one way now", f.ways(A, 2, 2), 1);
+        due("5: and one on the board", f.stands(A, 0, 1, 1), 1);
     }
 
     private static void only() {
@@ -230,6 +238,8 @@ public final class PromisesTest {
         f.draw(8, 4, 4);
         f.only(0, WIDE, 1, 4);
         f.draw(77, 5, 4);
+        due("7: ways yet", f.ways(A, 2, 3), 1);
+        due("7: a best yet", f.best(), 5);
         due("7: two rules", f.clear(), 2);
         due("7: no rules", f.count(0), 0);
         due("7: no parts", f.count(1), 0);
@@ -244,6 +254,7 @@ public final class PromisesTest {
         due("7: the latest draw() had its fault", f.fault(), 77);
         due("7: no parses", f.parses(), 0);
         due("7: no best", f.best(), NONE);
+        due("7: no ways", f.ways(A, 2, 3), 0);
         due("7: the board's letters stay", f.put(0, 0), 3);
         due("7: rules from 0 on", f.fill(A, 0, 0), 0);
     }
@@ -564,6 +575,10 @@ public final class PromisesTest {
         f.draw(0, 1, 10);
         due("16: 10 high", f.take(), STATE);
         due("16: the board stays", f.count(2) * 10 + f.count(3), 11);
+        due("16: a board of a has no parse", f.parses(), 0);
+        f.draw(0, 1, 1);
+        due("16: 1 to 1", f.take(), 1);
+        due("16: now it has one", f.parses(), 1);
         f.draw(0, 9, 9);
         due("16: 9 to 9", f.take(), 1);
         due("16: wide", f.count(2), 9);
@@ -631,6 +646,26 @@ public final class PromisesTest {
         due("17: most times none is none", f.ways(C, 20, 1), 0);
     }
 
+    /** B on k is 10 times B on k - 1 and 3: 3, 33, 333, .. */
+    private static void waysJustBelowMost() {
+        HouseFronts f = new HouseFronts();
+        split(f, B, X, 0, B, -1, C, 1);
+        for (int i = 0; i < 10; i++) {
+            f.fill(C, i, 0);
+        }
+        for (int i = 0; i < 3; i++) {
+            f.fill(B, i, 0);
+            f.fill(H, i, 0);
+        }
+        split(f, A, X, 0, B, -1, H, 1);
+        due("17: 3, 18 times", f.ways(B, 18, 1), 333_333_333_333_333_333L);
+        due("17: 9, 18 times", f.ways(A, 19, 1), MOST - 1);
+        f.fill(A, 0, 0);
+        due("17: and one", f.ways(A, 19, 1), MOST);
+        f.fill(A, 0, 0);
+        due("17: and two", f.ways(A, 19, 1), MOST);
+    }
+
     private static void waysEndless() {
         HouseFronts f = new HouseFronts();
         split(f, A, X, 0, A, -1);
@@ -647,6 +682,9 @@ public final class PromisesTest {
         f.only(0, WIDE, 1, 1);
         due("17: no circle at 2", f.ways(A, 2, 2), 1);
         due("17: but at 1", f.ways(A, 1, 2), ENDLESS);
+        split(f, H, X, 0, B, -1);
+        f.only(0, WIDE, 1, 20);
+        due("17: endless by way of a name that is so by its parts", f.ways(H, 2, 2), ENDLESS);
         f.clear();
         // a circle of eight by repeats and sizes, with a way out at one place
         for (int name = A; name <= H; name++) {
@@ -842,6 +880,30 @@ public final class PromisesTest {
         f.only(2, HIGH, 2, 2);
         due("23: the other one at last", f.bestStep(0), 4);
         due("22: its cost", f.best(), 2);
+    }
+
+    /** Two parts below the top, and two places in a row below it, are three rules each. */
+    private static void bestByNumber() {
+        HouseFronts f = new HouseFronts();
+        f.board(2, 1);
+        split(f, A, X, 0, H, -1, H, -1);
+        split(f, A, X, 0, B, -1);
+        split(f, B, X, 0, C, -1);
+        f.fill(C, 0, 0);
+        f.fill(H, 0, 0);
+        split(f, A, X, 0, H, -2, H, -2);
+        int[] parts = {0, 4, 4};
+        for (int i = 0; i < 3; i++) {
+            due("23: the split has the least number, step " + i, f.bestStep(i), parts[i]);
+        }
+        f.only(0, WIDE, 1, 1);
+        int[] row = {1, 2, 3};
+        for (int i = 0; i < 3; i++) {
+            due("23: the row has the least number, step " + i, f.bestStep(i), row[i]);
+        }
+        f.only(1, WIDE, 1, 1);
+        due("23: the other split alone", f.bestStep(0), 5);
+        due("22: all are for nothing", f.best(), 0);
     }
 
     private static void bestInCircles() {
