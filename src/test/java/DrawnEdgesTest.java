@@ -32,6 +32,7 @@ public final class DrawnEdgesTest {
         takeTooLarge();
         takeLetters();
         drawnAnew();
+        nothingLeftOver();
         Due.end("DrawnEdgesTest");
     }
 
@@ -539,5 +540,29 @@ public final class DrawnEdgesTest {
         due("cost", f.drawn(), 5);
         due("step 0", f.step(0), 0);
         due("letter", f.at(0, 1), 1);
+    }
+
+    private static void nothingLeftOver() {
+        Due.sentence("2: The first met .. ends it: the PARTS behind it are not in what is DRAWN next");
+        HouseFronts f = new HouseFronts();
+        f.repeat(A, B, 1, X, 2);
+        f.fill(B, 0, 3);
+        f.only(1, HIGH, 2, 2);
+        due("a fault at part 0 of 20", f.draw(0, 20, 1), NO_RULE);
+        due("three parts", f.draw(0, 3, 2), 4);
+        due("cost", f.drawn(), 11);
+        due("no step 4", f.step(4), NONE);
+        f.draw(0, 20, 1);
+        f.board(2, 2);
+        due("the best's last, after a fault", f.bestStep(2), 1);
+        due("and no more", f.bestStep(3), NONE);
+        Due.sentence("23: asked for a RULE ahead of the last: the others are not in what is DRAWN next");
+        due("bestStep(0)", f.bestStep(0), 0);
+        due("two parts", f.draw(0, 2, 2), 3);
+        due("cost", f.drawn(), 8);
+        due("no step 3", f.step(3), NONE);
+        due("bestStep(1)", f.bestStep(1), 1);
+        due("bestStep(2)", f.bestStep(2), 1);
+        due("bestStep(3)", f.bestStep(3), NONE);
     }
 }
